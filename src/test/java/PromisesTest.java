@@ -346,6 +346,7 @@ public final class PromisesTest {
         due("the last one", 0, x.wash(0));
         due("no mark", NO_SUCH, x.wash(0));
         due("changes", 6, x.count(9));
+        washedIsGone();
         FiveInks longer = with(SIXTY, "0-0:6,1+6a,1+7bcdef,2-8:9");
         longer.accept(0);
         longer.accept(1);
@@ -354,6 +355,35 @@ public final class PromisesTest {
         due("an accepted strike", NOT_POSSIBLE, longer.wash(0));
         due("an open strike", 3, longer.wash(3));
         due("changes", 6, longer.count(9));
+    }
+
+    /** Nothing answers for a mark that was the last one and is washed. */
+    private static void washedIsGone() {
+        FiveInks x = with("abcdef", "0-0:3,1-2:5");
+        due("wash", 1, x.wash(1));
+        due("quarrels", 0, x.count(5));
+        due("quarrels", 0, x.of(0, 6));
+        due("quarrels", 0, x.editor(0, 5));
+        due("marks", 0, x.editor(1, 1));
+        due("open", 0, x.editor(1, 2));
+        due("open", 1, x.count(3));
+        due("would be refused", 0, x.ifAccepted(0, 0));
+        due("would be refused", 0, x.ifJudged(1));
+        due("letters", 3, x.ifJudged(5));
+        dueText("seen", "abcdef", seen(x, 1));
+        due("quarrels", 0, x.editor(1, 5));
+        due("none is refused", 0, x.accept(0));
+        x.undo();
+        due("the ink is free", 1, x.strike(1, 2, 5));
+        due("accept", 1, x.accept(1));
+        due("wash", 1, x.wash(1));
+        due("accepted", 0, x.count(4));
+        due("letters", 6, x.count(1));
+        due("no accepted one clashes", 1, x.strike(0, 2, 5));
+        due("no accepted one clashes", 0, x.accept(1));
+        x.wash(1);
+        x.ship();
+        dueText("text", "abcdef", text(x));
     }
 
     private static void promise9Judge() {
@@ -433,6 +463,33 @@ public final class PromisesTest {
         x.accept(0);
         x.ship();
         dueText("a clash of put ins goes", "1+0:0", gaps(x));
+        x = with("abcdef", "0-1:3,0+5xy");
+        x.accept(0);
+        x.accept(1);
+        due("made later, so they are open", 5, marks(x, "1+2ab,1-0:2,2+5b,2=5:6c,3-2:5"));
+        dueText("made later, so they are open", "1100000", states(x));
+        due("ship", 0, x.ship());
+        dueText("open ones that clash with an accepted one go", "2=5:6", gaps(x));
+        dueText("it is open", "0", states(x));
+        x = with("abcdef", "1-4:5,0-0:3");
+        x.accept(1);
+        x.ship();
+        dueText("the first one is carried over, too", "1-1:2", gaps(x));
+        x.ship();
+        dueText("what went does not move it again", "1-1:2", gaps(x));
+        due("what went does not clash", 0, x.accept(0));
+        dueText("print", "df", print(x));
+        x = with("abcdef", "1-4:5,0-0:1");
+        x.accept(1);
+        x.ship();
+        x.ship();
+        dueText("what went does not move it again", "1-3:4", gaps(x));
+        x = with("abcdef", "1-4:5,0+5x,0+0y");
+        x.accept(1);
+        x.accept(2);
+        x.ship();
+        x.ship();
+        dueText("what went does not move it again", "1-5:6", gaps(x));
     }
 
     private static void sixVersions() {
@@ -569,6 +626,10 @@ public final class PromisesTest {
         due("letters", 5, x.editor(0, 6));
         dueText("letters", "dzzxf", seen(x, 0));
         due("letters of the print", 7, x.editor(4, 6));
+        x.wash(5);
+        due("accepted", 1, x.editor(0, 3));
+        due("none is refused", 0, x.editor(0, 4));
+        due("one is accepted", 1, x.count(4));
         due("no editor", NO_SUCH, x.editor(5, 0));
         due("no editor", NO_SUCH, x.editor(-1, 0));
         due("no editor, and a bad value", NO_SUCH, x.editor(5, 7));
@@ -667,8 +728,11 @@ public final class PromisesTest {
         due("bad value ahead of not possible", BAD_VALUE, x.ifAccepted(1, 2));
         due("accepted", NOT_POSSIBLE, x.ifAccepted(1, 0));
         due("refused", NOT_POSSIBLE, x.ifAccepted(0, 1));
+        x.wash(2);
+        x.wash(0);
         x.strike(4, 2, 3);
-        due("clashes", NOT_POSSIBLE, x.ifAccepted(4, 0));
+        due("clashes", NOT_POSSIBLE, x.ifAccepted(2, 0));
+        due("clashes", NOT_POSSIBLE, x.ifAccepted(2, 1));
         FiveInks longer = with(SIXTY, "0+0abcdef");
         due("more than 60 letters", 66, longer.ifAccepted(0, 1));
         due("more than 60 letters", 0, longer.ifAccepted(0, 0));
@@ -896,6 +960,57 @@ public final class PromisesTest {
         due("the slot stays through begin", 3, x.begin());
         due("the slot stays through begin", 1, x.restore(0));
         dueText("text", "abc", text(x));
+        wholeStatesComeBack();
+    }
+
+    /** Two states that are unlike in everything, brought back in turn. */
+    private static void wholeStatesComeBack() {
+        FiveInks x = with("abcdef", "0+1pqr,1=2:4s");
+        x.accept(0);
+        x.ship();
+        x.accept(0);
+        x.rank(0, 6);
+        x.save(0);
+        checkFirstState(x);
+        write(x, "uvw");
+        x.begin();
+        due("marks", 2, marks(x, "4-1:2,3+3mn"));
+        x.ship();
+        x.strike(2, 0, 1);
+        x.rank(0, 3);
+        x.ship();
+        x.save(1);
+        checkSecondState(x);
+        due("first", 1, x.restore(0));
+        checkFirstState(x);
+        due("second", 3, x.restore(1));
+        checkSecondState(x);
+        x.undo();
+        checkFirstState(x);
+        x.undo();
+        checkSecondState(x);
+    }
+
+    private static void checkFirstState(FiveInks x) {
+        dueText("text", "apqrbcdef", text(x));
+        dueText("gaps", "1=5:7", gaps(x));
+        dueText("states", "1", states(x));
+        dueText("print", "apqrbsef", print(x));
+        dueText("version", "apqrbcdef", version(x, 0));
+        due("shipped", 1, x.count(6));
+        due("rank", 6, x.editor(0, 0));
+    }
+
+    private static void checkSecondState(FiveInks x) {
+        dueText("text", "uvw", text(x));
+        dueText("gaps", "4-1:2,3+3:3,2-0:1", gaps(x));
+        dueText("states", "000", states(x));
+        dueText("seen", "uvwmn", seen(x, 3));
+        dueText("seen", "vw", seen(x, 2));
+        dueText("version", "uvw", version(x, 0));
+        dueText("version", "uvw", version(x, 1));
+        due("shipped", 2, x.count(6));
+        due("rank", 3, x.editor(0, 0));
     }
 
     public static void main(String[] args) {
