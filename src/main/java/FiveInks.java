@@ -11,7 +11,8 @@ public final class FiveInks {
     private static final int MOST_LETTERS = 60, MOST_MARKS = 20, MOST_PUT_IN = 6;
     // An editor's own view has no limit of 60: all 20 marks may put their letters in.
     private static final int LONGEST_VIEW = MOST_LETTERS + MOST_MARKS * MOST_PUT_IN;
-    private static final int KEPT_VERSIONS = 6, KEPT_STATES = 6, SLOTS = 2, PAD_ROOM = 60;
+    private static final int KEPT_VERSIONS = 6, KEPT_STATES = 6, SLOTS = 2;
+    private static final int PAD_ROOM = 60, MOST_AT_ONCE = 8;
     private static final int OPEN = 0, ACCEPTED = 1, REFUSED = 2;
 
     private final Sheet now = new Sheet();
@@ -957,8 +958,8 @@ public final class FiveInks {
         /** Returns how many characters are in the number, or NONE if it is not one of characters. */
         static int charactersIn(long packed) {
             int found = 0;
-            for (long rest = packed; rest != 0; rest = rest >>> 8) {
-                int code = (int) (rest & 255);
+            while (found < MOST_AT_ONCE && packed >>> (8 * found) != 0) {
+                int code = codeIn(packed, found);
                 if (code < 33 || code > 126) {
                     return NONE;
                 }
@@ -967,10 +968,15 @@ public final class FiveInks {
             return found == 0 ? NONE : found;
         }
 
+        /** The code of a character, counted from the last one. */
+        private static int codeIn(long packed, int fromLast) {
+            return (int) ((packed >>> (8 * fromLast)) & 255);
+        }
+
         void append(long packed, int added) {
             for (int i = added - 1; i >= 0; i--) {
                 if (length < PAD_ROOM) {
-                    codes[length] = (int) ((packed >>> (8 * i)) & 255);
+                    codes[length] = codeIn(packed, i);
                     length++;
                 }
             }
