@@ -524,19 +524,20 @@ final class ChangesSentences extends Sentences {
 
     private static void wash() {
         section("Promise 8: wash");
-        says("Takes a mark away, whether open, accepted or refused", "an open one", () -> {
+        String away = "Takes a mark away, whether open, accepted or refused";
+        says(away, "an open one", () -> {
             FiveInks x = with("abc", "0-0:1,1+1x");
             due(1, x.wash(0));
             due("1+1", gaps(x));
             due("abc", seen(x, 0));
         });
-        says("Takes a mark away, whether open, accepted or refused", "an accepted one: its letters are back", () -> {
+        says(away, "an accepted one: its letters are back", () -> {
             FiveInks x = accepting(with("abc", "0=0:2x,1-1:2"), 0);
             due(1, x.wash(0));
             due("abc", print(x));
             due("2", states(x));
         });
-        says("Takes a mark away, whether open, accepted or refused", "a refused one", () -> {
+        says(away, "a refused one", () -> {
             FiveInks x = with("abc", "0-0:1,1+1x");
             x.refuse(0);
             due(1, x.wash(0));
@@ -563,6 +564,37 @@ final class ChangesSentences extends Sentences {
             due(1, x.of(0, 2));
             due(19, x.of(18, 2));
             due(NO_SUCH, x.of(19, 2));
+        });
+        says(away, "the last one: no count and no letter of it is left", () -> {
+            FiveInks x = accepting(with("abcdef", "0-0:2,1+3xyz"), 1);
+            due(1, x.wash(1));
+            due("abcdef", print(x));
+            due("0000", "" + x.count(4) + x.editor(1, 1) + x.editor(1, 3) + x.editor(1, 2));
+            due(1, mark(x, "2-3:5"));
+            x.wash(0);
+            due("2-3:5", gaps(x));
+            due("abcdef", text(shipped(x)));
+            due("2-3:5", gaps(x));
+        });
+        says(away, "an accepted one: when the text is shipped, nothing of it moves a gap", () -> {
+            FiveInks x = accepting(with("abcdef", "2-3:5,1+3xyz"), 1);
+            due(1, x.wash(1));
+            due("2-3:5", gaps(shipped(x)));
+        });
+        says(away, "an accepted one: it does not clash any more", () -> {
+            FiveInks x = accepting(with("abcdef", "2-0:1,1-3:5"), 1);
+            due(1, x.wash(1));
+            due(1, x.strike(2, 3, 5));
+            due(0, x.accept(1));
+        });
+        says(away, "an open one: it is not refused, and does not quarrel any more", () -> {
+            FiveInks x = with("abcdef", "2-3:5,1-3:5");
+            due(1, x.wash(1));
+            due(0, x.of(0, 6));
+            due(0, x.count(5));
+            due(0, x.ifAccepted(0, 0));
+            due(0, x.accept(0));
+            due(1, x.strike(1, 3, 5));
         });
         aChange("This is a change.", "an accepted one", () -> accepting(with("abc", "0-0:1,1+1x"), 0), x -> x.wash(0));
         aChange("This is a change.", "the last one of twenty", ChangesSentences::withTwentyMarks, x -> x.wash(19));

@@ -218,7 +218,12 @@ final class MarksSentences extends Sentences {
             FiveInks x = accepting(with("abc", "0-0:2"), 0);
             due(1, x.strike(1, 1, 2));
             due(2, x.clash(0, 1));
+            due(2, x.clash(1, 0));
             due(1, x.of(0, 6));
+            due(1, x.of(1, 6));
+            due(1, x.count(5));
+            due(1, x.editor(0, 5));
+            due(1, x.editor(1, 5));
         });
         says(unlike, "the first one is refused", () -> {
             FiveInks x = with("abc", "0-0:2,1-1:2");
@@ -487,6 +492,21 @@ final class MarksSentences extends Sentences {
             due("aaabacadaeafagahaiajakalamanaoapaqarasat", seen(x, 0));
             due(19, x.of(19, 2));
         });
+        says(STAY, "twenty strikes and replacements, behind letters that are put in", () -> {
+            FiveInks x = with(SIXTY.substring(6), "4+0uvwxyz");
+            for (int i = 0; i < 19; i++) {
+                due(1, mark(x, "1" + (i % 2 == 0 ? "-" + i + ":" + (i + 1) : "=" + i + ":" + (i + 1) + "q")));
+            }
+            shipped(accepting(x, 0));
+            due(19, x.count(2));
+            due("1-6:7", gaps(x).substring(0, 5));
+            due("1-24:25", gaps(x).substring(gaps(x).length() - 7));
+            due(1, mark(x, "2-59:60"));
+            shipped(x);
+            due(20, x.count(2));
+            due("1-6:7", gaps(x).substring(0, 5));
+            due("2-59:60", gaps(x).substring(gaps(x).length() - 7));
+        });
         says(STAY, "with their inks, kinds and letters, and open", () -> {
             FiveInks x = shipped(with("abcdef", "4-1:2,3+2uvwxyz,2=3:5pq"));
             due("4-1:2,3+2,2=3:5", gaps(x));
@@ -609,6 +629,13 @@ final class MarksSentences extends Sentences {
             due("1+1,1-1:2", gaps(shipped(accepting(with("abcd", "1+1x,1-3:4,0-1:3"), 2))));
             due("1-0:1,1+1", gaps(shipped(accepting(with("abcd", "1-0:1,1+3x,0-1:3"), 2))));
             due("1=1:2,1+1", gaps(shipped(accepting(with("abcd", "1=3:4z,1+1x,0-1:3"), 2))));
+        });
+        says(TWICE, "a refused one at the same gap does not make another one go", () -> {
+            FiveInks x = with("abcd", "1+1x");
+            x.refuse(0);
+            due(1, mark(x, "1+1y"));
+            due("1+1", gaps(shipped(x)));
+            due("aybcd", seen(x, 1));
         });
         says(TWICE, "one that goes itself does not make another one go", () -> {
             FiveInks x = with("abcdef", "1+3x", "1+5y", "2+1z");

@@ -185,6 +185,15 @@ final class PadSentences extends Sentences {
                 return again;
             }));
         });
+        says(undoes, "twenty marks of six letters each", () -> due(portrait(MarksSentences::longest), portrait(() -> {
+            FiveInks x = MarksSentences.longest();
+            begin(x, SIXTY);
+            othersThanLongest(x);
+            for (int i = 0; i < 5; i++) {
+                due(true, x.undo() >= 0);
+            }
+            return x;
+        })));
         says(undoes, "the pad stays", () -> {
             FiveInks x = with("abc");
             pad(x, "0-0:1");
@@ -251,6 +260,15 @@ final class PadSentences extends Sentences {
             due(1, x.undo());
             due(0, x.count(2));
         });
+    }
+
+    /** Twenty marks of other inks, kinds and letters, in four changes. */
+    private static void othersThanLongest(FiveInks x) {
+        for (int i = 0; i < 4; i++) {
+            int at = 5 * i;
+            due(5, mark(x, "4=" + at + ":" + (at + 1) + "abcdef,4=" + (at + 1) + ":" + (at + 2) + "ghijkl,0+" + at + "m,0+"
+                + (at + 1) + "n,0+" + (at + 2) + "o"));
+        }
     }
 
     /** A state in which there is something of everything. */
@@ -399,6 +417,18 @@ final class PadSentences extends Sentences {
                 return x;
             }));
         });
+        for (int number = 0; number <= 1; number++) {
+            int slot = number;
+            says(SAVES, "twenty marks of six letters each, slot " + slot, () -> due(portrait(MarksSentences::longest),
+                portrait(() -> {
+                    FiveInks x = MarksSentences.longest();
+                    due(20, x.save(slot));
+                    begin(x, SIXTY);
+                    othersThanLongest(x);
+                    due(20, x.restore(slot));
+                    return x;
+                })));
+        }
         says(SAVES, "not the pad, which stays as it is", () -> {
             FiveInks x = with("abc");
             pad(x, "ab");

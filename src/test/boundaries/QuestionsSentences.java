@@ -479,15 +479,13 @@ final class QuestionsSentences extends Sentences {
     /** How far the text is from what all of the marks make of it. */
     private static int distance(String text, String marks) {
         FiveInks x = shipped(with(text));
-        due(marks.split(",").length, mark(x, marks));
-        while (x.count(3) > 0) {
-            int mark = x.count(2) - 1;
-            accepting(x, mark);
-            shipped(x);
+        int made = marks.split(",").length;
+        due(made, mark(x, marks));
+        for (int left = made - 1; left >= 0; left--) {
+            shipped(accepting(x, left));
         }
-        int other = x.count(7) - 1;
-        due(x.apart(0, other), x.apart(other, 0));
-        return x.apart(0, other);
+        due(x.apart(0, made), x.apart(made, 0));
+        return x.apart(0, made);
     }
 
     private static void apart() {

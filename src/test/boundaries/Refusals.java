@@ -213,7 +213,7 @@ final class Refusals extends Sentences {
 
     private static void order() {
         first("rank: no editor, rank out of range", NO_SUCH, Refusals::rich, x -> x.rank(5, 10));
-        first("rank: no editor, rank out of range", NO_SUCH, Refusals::rich, x -> x.rank(-1, -1));
+        first("rank: no editor, rank out of range, both below", NO_SUCH, Refusals::rich, x -> x.rank(-1, -1));
         first("strike: no editor, b not greater", NO_SUCH, Refusals::rich, x -> x.strike(5, 6, 5));
         first("strike: no editor, 20 marks", NO_SUCH, Refusals::full, x -> x.strike(5, 0, 1));
         first("strike: no gap a, b not greater", NO_SUCH, Refusals::rich, x -> x.strike(0, 13, 5));
@@ -233,15 +233,15 @@ final class Refusals extends Sentences {
 
     private static void orderOfQuestions() {
         first("letter: neither, no place", BAD_VALUE, Refusals::rich, x -> x.letter(2, 12));
-        first("letter: neither, no place", BAD_VALUE, Refusals::rich, x -> x.letter(-1, -1));
+        first("letter: neither, no place, both below", BAD_VALUE, Refusals::rich, x -> x.letter(-1, -1));
         first("of: no mark, out of range", NO_SUCH, Refusals::rich, x -> x.of(6, 8));
-        first("of: no mark, out of range", NO_SUCH, Refusals::rich, x -> x.of(-1, -1));
+        first("of: no mark, out of range, both below", NO_SUCH, Refusals::rich, x -> x.of(-1, -1));
         first("clash: no mark, the same", NO_SUCH, Refusals::rich, x -> x.clash(6, 6));
-        first("clash: no mark, the same", NO_SUCH, Refusals::rich, x -> x.clash(-1, -1));
+        first("clash: no mark, the same, both below", NO_SUCH, Refusals::rich, x -> x.clash(-1, -1));
         first("editor: no editor, out of range", NO_SUCH, Refusals::rich, x -> x.editor(5, 7));
-        first("editor: no editor, out of range", NO_SUCH, Refusals::rich, x -> x.editor(-1, -1));
+        first("editor: no editor, out of range, both below", NO_SUCH, Refusals::rich, x -> x.editor(-1, -1));
         first("ifAccepted: no mark, out of range", NO_SUCH, Refusals::rich, x -> x.ifAccepted(6, 2));
-        first("ifAccepted: no mark, out of range", NO_SUCH, Refusals::rich, x -> x.ifAccepted(-1, -1));
+        first("ifAccepted: no mark, out of range, both below", NO_SUCH, Refusals::rich, x -> x.ifAccepted(-1, -1));
         first("ifAccepted: out of range, accepted", BAD_VALUE, Refusals::rich, x -> x.ifAccepted(0, 2));
         first("ifAccepted: out of range, refused", BAD_VALUE, Refusals::rich, x -> x.ifAccepted(1, -1));
         first("ifAccepted: out of range, a clash", BAD_VALUE, Refusals::rich, x -> x.ifAccepted(5, 2));
@@ -249,7 +249,7 @@ final class Refusals extends Sentences {
         first("put: a bad code, a full pad", BAD_VALUE, Refusals::full, x -> x.put(packed("a b")));
         first("put: a bit above, a full pad", BAD_VALUE, Refusals::full, x -> x.put(0x610061));
         first("restore: no slot, nothing saved", BAD_VALUE, Refusals::unsaved, x -> x.restore(2));
-        first("restore: no slot, nothing saved", BAD_VALUE, Refusals::unsaved, x -> x.restore(-1));
+        first("restore: no slot, nothing saved, below", BAD_VALUE, Refusals::unsaved, x -> x.restore(-1));
         section("Terms");
         says("NONE (-6) is not an error; it is returned only if no error applies", "NONE as a place is none but for version()", () -> {
             due(NO_SUCH, rich().letter(0, NONE));
