@@ -499,13 +499,13 @@ final class MarksSentences extends Sentences {
             }
             shipped(accepting(x, 0));
             due(19, x.count(2));
-            due("1-6:7", gaps(x).substring(0, 5));
-            due("1-24:25", gaps(x).substring(gaps(x).length() - 7));
+            due("1-6:7,1=7:8,1-8:9,1=9:10,1-10:11,1=11:12,1-12:13,1=13:14,1-14:15,1=15:16,1-16:17,1=17:18,1-18:19,"
+                + "1=19:20,1-20:21,1=21:22,1-22:23,1=23:24,1-24:25", gaps(x));
             due(1, mark(x, "2-59:60"));
             shipped(x);
             due(20, x.count(2));
-            due("1-6:7", gaps(x).substring(0, 5));
-            due("2-59:60", gaps(x).substring(gaps(x).length() - 7));
+            due("1-6:7,1=7:8,1-8:9,1=9:10,1-10:11,1=11:12,1-12:13,1=13:14,1-14:15,1=15:16,1-16:17,1=17:18,1-18:19,"
+                + "1=19:20,1-20:21,1=21:22,1-22:23,1=23:24,1-24:25,2-59:60", gaps(x));
         });
         says(STAY, "with their inks, kinds and letters, and open", () -> {
             FiveInks x = shipped(with("abcdef", "4-1:2,3+2uvwxyz,2=3:5pq"));

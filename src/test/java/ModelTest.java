@@ -10,8 +10,11 @@ import java.util.regex.Pattern;
  */
 public final class ModelTest {
     private static final int NO_SUCH = -1, BAD_VALUE = -2, BAD_TEXT = -3, TOO_MANY = -4, NOT_POSSIBLE = -5, NONE = -6;
+    private static final String SIXTY = "abcdefghijklmnopqrstuvwxyzabcdefghijklmnopqrstuvwxyzabcdefgh";
     private static final int RUNS = 1500;
     private static final int CALLS = 120;
+    private static final int MOST_CHANGES = 300;
+    private static final int CALLS_OF_ONE = 512;
 
     // ---- the second program
 
@@ -510,7 +513,17 @@ public final class ModelTest {
 
     // ---- the runs
 
-    private final FiveInks real = new FiveInks();
+    private interface Call {
+        int on(FiveInks inks);
+    }
+
+    private interface Question<T> {
+        int ask(T of, int x, int y);
+    }
+
+    private final List<Call> changes = new ArrayList<>();
+    private FiveInks real = new FiveInks();
+    private int used = 0;
     private final Model model = new Model();
     private final StringBuilder calls = new StringBuilder();
     private long seed;
@@ -535,6 +548,23 @@ public final class ModelTest {
         return dice == 1 ? -1 : dice == 2 ? highest + 1 : upTo(Math.max(highest, 0));
     }
 
+    /** An object is used for at most 512 calls; then another one is brought to where it stands. */
+    private int answer(Call call) {
+        if (used == CALLS_OF_ONE) {
+            real = new FiveInks();
+            changes.forEach(change -> change.on(real));
+            used = changes.size();
+        }
+        used++;
+        return call.on(real);
+    }
+
+    private int change(Call call) {
+        int answer = answer(call);
+        changes.add(call);
+        return answer;
+    }
+
     private void same(String call, int want, int got) {
         if (want != got && !wrong) {
             wrong = true;
@@ -543,30 +573,34 @@ public final class ModelTest {
         }
     }
 
+    private void ask(String name, int x, int y, Question<Model> want, Question<FiveInks> got) {
+        same(name + "(" + x + ", " + y + ")", want.ask(model, x, y), answer(o -> got.ask(o, x, y)));
+    }
+
     private void call(String name, int x, int y, int z) {
         String call = name + "(" + x + ", " + y + ", " + z + ")";
         calls.append(call).append('\n');
         switch (name) {
-            case "begin" -> same(call, model.begin(), real.begin());
-            case "rank" -> same(call, model.rank(x, y), real.rank(x, y));
-            case "mark" -> same(call, model.mark(), real.mark());
-            case "strike" -> same(call, model.strike(x, y, z), real.strike(x, y, z));
-            case "accept" -> same(call, model.accept(x), real.accept(x));
-            case "refuse" -> same(call, model.refuse(x), real.refuse(x));
-            case "wash" -> same(call, model.wash(x), real.wash(x));
-            case "judge" -> same(call, model.judge(), real.judge());
-            case "ship" -> same(call, model.ship(), real.ship());
-            case "wipe" -> same(call, model.wipe(), real.wipe());
-            case "undo" -> same(call, model.undo(), real.undo());
-            case "save" -> same(call, model.save(x), real.save(x));
-            case "restore" -> same(call, model.restore(x), real.restore(x));
+            case "begin" -> same(call, model.begin(), change(FiveInks::begin));
+            case "rank" -> same(call, model.rank(x, y), change(o -> o.rank(x, y)));
+            case "mark" -> same(call, model.mark(), change(FiveInks::mark));
+            case "strike" -> same(call, model.strike(x, y, z), change(o -> o.strike(x, y, z)));
+            case "accept" -> same(call, model.accept(x), change(o -> o.accept(x)));
+            case "refuse" -> same(call, model.refuse(x), change(o -> o.refuse(x)));
+            case "wash" -> same(call, model.wash(x), change(o -> o.wash(x)));
+            case "judge" -> same(call, model.judge(), change(FiveInks::judge));
+            case "ship" -> same(call, model.ship(), change(FiveInks::ship));
+            case "wipe" -> same(call, model.wipe(), change(FiveInks::wipe));
+            case "undo" -> same(call, model.undo(), change(FiveInks::undo));
+            case "save" -> same(call, model.save(x), change(o -> o.save(x)));
+            case "restore" -> same(call, model.restore(x), change(o -> o.restore(x)));
             default -> throw new IllegalStateException(name);
         }
     }
 
     private void put(long characters) {
         calls.append("put(").append(characters).append(")\n");
-        same("put", model.put(characters), real.put(characters));
+        same("put", model.put(characters), change(o -> o.put(characters)));
     }
 
     private void write(String text) {
@@ -585,6 +619,12 @@ public final class ModelTest {
             out.append((char) ('a' + upTo(3)));
         }
         return out.toString();
+    }
+
+    /** Often one of nearly 60 letters, so that what a print may hold is reached. */
+    private String someText() {
+        int dice = upTo(5);
+        return dice < 2 ? SIXTY.substring(upTo(6)) : someLetters(dice == 2 ? 60 : 14);
     }
 
     private String someMark() {
@@ -617,20 +657,20 @@ public final class ModelTest {
     private void someCall() {
         int marks = model.now.marks.size() - 1;
         int end = model.now.text.length();
-        switch (upTo(30)) {
-            case 0 -> write(someLetters(upTo(2) == 0 ? 60 : 12));
+        switch (upTo(32)) {
+            case 0 -> write(someText());
             case 1, 2 -> call("begin", 0, 0, 0);
             case 3, 4 -> call("rank", about(4), about(9), 0);
             case 5, 6, 7, 8, 9, 10 -> {
                 call("wipe", 0, 0, 0);
                 write(someMarks());
-                same("fault", model.fault(), real.fault());
+                same("fault", model.fault(), answer(FiveInks::fault));
                 call("mark", 0, 0, 0);
             }
             case 11, 12 -> call("strike", about(4), about(end), about(end));
             case 13, 14, 15, 16, 17 -> call("accept", about(marks), 0, 0);
             case 18 -> call("refuse", about(marks), 0, 0);
-            case 19 -> call("wash", about(marks), 0, 0);
+            case 19, 30, 31 -> call("wash", about(marks), 0, 0);
             case 20 -> call("judge", 0, 0, 0);
             case 21, 22, 23 -> call("ship", 0, 0, 0);
             case 24, 25 -> call("undo", 0, 0, 0);
@@ -645,13 +685,13 @@ public final class ModelTest {
     private void compareMarks() {
         for (int mark = -1; mark <= model.now.marks.size(); mark++) {
             for (int what = -1; what <= 8; what++) {
-                same("of " + mark + " " + what, model.of(mark, what), real.of(mark, what));
+                ask("of", mark, what, Model::of, FiveInks::of);
             }
             for (int other = -1; other <= model.now.marks.size(); other++) {
-                same("clash " + mark + " " + other, model.clash(mark, other), real.clash(mark, other));
+                ask("clash", mark, other, Model::clash, FiveInks::clash);
             }
             for (int what = -1; what <= 2; what++) {
-                same("ifAccepted " + mark + " " + what, model.ifAccepted(mark, what), real.ifAccepted(mark, what));
+                ask("ifAccepted", mark, what, Model::ifAccepted, FiveInks::ifAccepted);
             }
         }
     }
@@ -659,15 +699,15 @@ public final class ModelTest {
     private void compareTexts() {
         for (int of = -1; of <= 2; of++) {
             for (int place = -1; place <= 61; place++) {
-                same("letter " + of + " " + place, model.letter(of, place), real.letter(of, place));
+                ask("letter", of, place, Model::letter, FiveInks::letter);
             }
         }
         for (int editor = -1; editor <= 5; editor++) {
             for (int what = -1; what <= 7; what++) {
-                same("editor " + editor + " " + what, model.editor(editor, what), real.editor(editor, what));
+                ask("editor", editor, what, Model::editor, FiveInks::editor);
             }
             for (int place = -1; place <= model.editor(editor, 6); place++) {
-                same("seen " + editor + " " + place, model.seen(editor, place), real.seen(editor, place));
+                ask("seen", editor, place, Model::seen, FiveInks::seen);
             }
         }
     }
@@ -675,22 +715,22 @@ public final class ModelTest {
     private void compareVersions() {
         for (int back = -1; back <= 6; back++) {
             for (int place = -7; place <= model.version(back, NONE); place++) {
-                same("version " + back + " " + place, model.version(back, place), real.version(back, place));
+                ask("version", back, place, Model::version, FiveInks::version);
             }
             for (int other = -1; other <= 6; other++) {
-                same("apart " + back + " " + other, model.apart(back, other), real.apart(back, other));
+                ask("apart", back, other, Model::apart, FiveInks::apart);
             }
         }
     }
 
     private void compare() {
         for (int what = -1; what <= 10; what++) {
-            same("count " + what, model.count(what), real.count(what));
+            ask("count", what, 0, (o, x, y) -> o.count(x), (o, x, y) -> o.count(x));
         }
         for (int what = -1; what <= 6; what++) {
-            same("ifJudged " + what, model.ifJudged(what), real.ifJudged(what));
+            ask("ifJudged", what, 0, (o, x, y) -> o.ifJudged(x), (o, x, y) -> o.ifJudged(x));
         }
-        same("fault", model.fault(), real.fault());
+        same("fault", model.fault(), answer(FiveInks::fault));
         compareMarks();
         switch (upTo(7)) {
             case 0 -> compareTexts();
@@ -700,9 +740,9 @@ public final class ModelTest {
     }
 
     private boolean isRight() {
-        write(someLetters(upTo(3) == 0 ? 60 : 14));
+        write(someText());
         call("begin", 0, 0, 0);
-        for (int i = 0; i < CALLS && !wrong; i++) {
+        for (int i = 0; i < CALLS && changes.size() < MOST_CHANGES && !wrong; i++) {
             someCall();
             compare();
         }
@@ -716,6 +756,6 @@ public final class ModelTest {
                 System.exit(1);
             }
         }
-        System.out.println("model: " + RUNS + " runs of " + CALLS + " calls and all questions, none wrong");
+        System.out.println("model: " + RUNS + " runs of up to " + CALLS + " steps and all questions, none wrong");
     }
 }
